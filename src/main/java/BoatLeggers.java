@@ -119,11 +119,12 @@ public final class BoatLeggers {
             return STATE;
         }
         int minutes = voyage.at.minutesToWalk(told, pair);
-        if (voyage.at.minute + minutes > LAST_MINUTE) {
+        int till = voyage.at.minute + minutes;
+        if (till > LAST_MINUTE) {
             return STATE;
         }
         voyage.remember();
-        voyage.at.walkOn(told, pair);
+        voyage.at.walkOn(told, pair, till);
         moved();
         return minutes;
     }
@@ -278,7 +279,7 @@ public final class BoatLeggers {
         trial.copy(voyage.at);
         trial.minute = 0;
         for (int t = voyage.at.gone; t < told.stretches; t++) {
-            trial.walkOn(told, pair);
+            trial.walkOn(told, pair, trial.minute + trial.minutesToWalk(told, pair));
         }
         return trial.minute;
     }
@@ -301,8 +302,8 @@ public final class BoatLeggers {
         trial.minute = 0;
         for (int t = voyage.at.gone; t < told.stretches; t++) {
             int weCome = trial.minute;
-            trial.walkOn(told, pair);
-            int weLeave = trial.minute;
+            int weLeave = weCome + trial.minutesToWalk(told, pair);
+            trial.walkOn(told, pair, weLeave);
             int theyCome = n + k * told.furlongs(t + 1, told.stretches);
             int theyLeave = theyCome + k * told.length[t];
             if (weCome <= theyLeave && theyCome <= weLeave) {
@@ -629,14 +630,11 @@ public final class BoatLeggers {
     /** The text, and how it is read token by token. */
     private static final class Reader {
         private static final int END = 0, LETTERS = 1, NUMBER = 2, STOP = 3, WRONG = 4;
-        private static final int[] WALKER_LOW = {1, 1};
-        private static final int[] WALKER_HIGH = {9, 40};
-        private static final int[] STRETCH_LOW = {1, 2, 0, 0};
-        private static final int[] STRETCH_HIGH = {9, 18, 1, 1};
-        private static final int[] CHANGE_LOW = {0};
-        private static final int[] CHANGE_HIGH = {9};
-        private static final int[] HOURS_LOW = {10};
-        private static final int[] HOURS_HIGH = {99};
+        /** The least and the greatest that each number of an item may be. */
+        private static final int[] WALKER_BOUNDS = {1, 9, 1, 40};
+        private static final int[] STRETCH_BOUNDS = {1, 9, 2, 18, 0, 1, 0, 1};
+        private static final int[] CHANGE_BOUNDS = {0, 9};
+        private static final int[] HOURS_BOUNDS = {10, 99};
 
         int size;
         final int[] bytes = new int[BYTES];
@@ -669,68 +667,72 @@ public final class BoatLeggers {
         }
 
         private boolean readItem(Tunnel draft) {
-            if (sort != LETTERS) {
+            int letter = sort == LETTERS ? value : 0;
+            if (!mayBegin(draft, letter) || !readNumbers(boundsOf(letter))) {
                 return false;
             }
-            switch (value) {
+            tell(draft, letter);
+            return true;
+        }
+
+        private boolean mayBegin(Tunnel draft, int letter) {
+            switch (letter) {
                 case 'w':
-                    return readWalker(draft);
+                    return draft.walkers < WALKERS;
                 case 't':
-                    return readStretch(draft);
+                    return draft.stretches < STRETCHES;
                 case 'c':
-                    return readChange(draft);
+                    return !changeTold;
                 case 'h':
-                    return readHours(draft);
+                    return !hoursTold;
                 default:
                     return false;
             }
         }
 
-        private boolean readWalker(Tunnel draft) {
-            if (draft.walkers >= WALKERS || !readNumbers(WALKER_LOW, WALKER_HIGH)) {
-                return false;
+        private static int[] boundsOf(int letter) {
+            switch (letter) {
+                case 'w':
+                    return WALKER_BOUNDS;
+                case 't':
+                    return STRETCH_BOUNDS;
+                case 'c':
+                    return CHANGE_BOUNDS;
+                default:
+                    return HOURS_BOUNDS;
             }
-            draft.addWalker(numbers[0], numbers[1]);
-            return true;
         }
 
-        private boolean readStretch(Tunnel draft) {
-            if (draft.stretches >= STRETCHES || !readNumbers(STRETCH_LOW, STRETCH_HIGH)) {
-                return false;
-            }
-            draft.addStretch(numbers[0], numbers[1], numbers[2], numbers[3]);
-            return true;
-        }
-
-        private boolean readChange(Tunnel draft) {
-            if (changeTold || !readNumbers(CHANGE_LOW, CHANGE_HIGH)) {
-                return false;
-            }
-            changeTold = true;
-            draft.change = numbers[0];
-            return true;
-        }
-
-        private boolean readHours(Tunnel draft) {
-            if (hoursTold || !readNumbers(HOURS_LOW, HOURS_HIGH)) {
-                return false;
-            }
-            hoursTold = true;
-            draft.hours = numbers[0];
-            return true;
-        }
-
-        /** As many numbers as there are bounds, and the stop that ends the item. */
-        private boolean readNumbers(int[] low, int[] high) {
-            for (int i = 0; i < low.length && i < high.length && i < numbers.length; i++) {
+        /** As many numbers as there are bounds for, and the stop that ends the item. */
+        private boolean readNumbers(int[] bounds) {
+            for (int i = 0; i < numbers.length && 2 * i + 1 < bounds.length; i++) {
                 nextToken();
-                if (sort != NUMBER || value < low[i] || value > high[i]) {
+                if (sort != NUMBER || value < bounds[2 * i] || value > bounds[2 * i + 1]) {
                     return false;
                 }
                 numbers[i] = value;
             }
             nextToken();
             return sort == STOP;
+        }
+
+        private void tell(Tunnel draft, int letter) {
+            switch (letter) {
+                case 'w':
+                    draft.addWalker(numbers[0], numbers[1]);
+                    break;
+                case 't':
+                    draft.addStretch(numbers[0], numbers[1], numbers[2], numbers[3]);
+                    break;
+                case 'c':
+                    changeTold = true;
+                    draft.change = numbers[0];
+                    break;
+                default:
+                    hoursTold = true;
+                    draft.hours = numbers[0];
+                    break;
+            }
         }
 
         private void nextToken() {
@@ -817,8 +819,11 @@ public final class BoatLeggers {
             return bits;
         }
 
-        int wornOf(Tunnel told, int pair) {
-            return (isWorn(told, pair / 10) ? 1 : 0) + (isWorn(told, pair % 10) ? 1 : 0);
+        /** How many of a pair are worn. */
+        int wornOf(Tunnel told, int by) {
+            int a = by / 10;
+            int b = by % 10;
+            return (tired[a] > told.strength[a] ? 1 : 0) + (tired[b] > told.strength[b] ? 1 : 0);
         }
 
         int tiredTogether() {
@@ -840,9 +845,10 @@ public final class BoatLeggers {
             return pair == NONE || pair == by ? minutes : minutes + told.change;
         }
 
-        void walkOn(Tunnel told, int by) {
+        /** Till a minute that the caller has reckoned already. */
+        void walkOn(Tunnel told, int by, int till) {
             if (gone < told.stretches) {
-                minute += minutesToWalk(told, by);
+                minute = till;
                 tire(by, told.length[gone]);
                 pair = by;
                 gone++;
@@ -961,9 +967,10 @@ public final class BoatLeggers {
                 if (wornMayNot && here.wornOf(told, pair) > 0) {
                     continue;
                 }
-                if (mayBeQuicker(told, t + 1, here.minute + here.minutesToWalk(told, pair))) {
+                int till = here.minute + here.minutesToWalk(told, pair);
+                if (mayBeQuicker(told, t + 1, till)) {
                     next.copy(here);
-                    next.walkOn(told, pair);
+                    next.walkOn(told, pair, till);
                     row[t] = pair;
                     search(told, t + 1);
                 }
@@ -1054,10 +1061,10 @@ public final class BoatLeggers {
             Moment next = ahead[t + 1];
             for (int p = 0; p < told.pairs; p++) {
                 int pair = told.pairAt[p];
-                int minuteThere = here.minute + here.minutesToWalk(told, pair);
-                if (mayFit(told, t, minuteThere)) {
+                int till = here.minute + here.minutesToWalk(told, pair);
+                if (mayFit(told, t, till)) {
                     next.copy(here);
-                    next.walkOn(told, pair);
+                    next.walkOn(told, pair, till);
                     row[t] = pair;
                     search(told, t + 1);
                 }
@@ -1065,11 +1072,11 @@ public final class BoatLeggers {
         }
 
         /** Whether the next minute that is due can be met by one who ends a stretch in a minute. */
-        private boolean mayFit(Tunnel told, int ended, int minuteThere) {
+        private boolean mayFit(Tunnel told, int ended, int till) {
             for (int t = ended; t < told.stretches; t++) {
                 if (due[t] != NONE) {
-                    int soonest = minuteThere + told.fewest[t + 1] - told.fewest[ended + 1];
-                    int latest = minuteThere + told.most[t + 1] - told.most[ended + 1];
+                    int soonest = till + told.fewest[t + 1] - told.fewest[ended + 1];
+                    int latest = till + told.most[t + 1] - told.most[ended + 1];
                     return soonest <= due[t] && due[t] <= latest;
                 }
             }

@@ -183,6 +183,21 @@ public final class PromiseTests {
         fault("h100;", 1);
         fault("h10;c1;h10;", 7);
         fault("w 1 1; x $", 7);
+        fault("x".repeat(200), 0);
+        fault("w 1 1;".repeat(3) + "c " + "1".repeat(180), 20);
+        fault(" ".repeat(199) + "w", 200);
+        fault(" ".repeat(199) + "x", 199);
+        fault("w" + " ".repeat(199), 200);
+        BoatLeggers x = new BoatLeggers();
+        write(x, "w1 12;");
+        x.clear();
+        write(x, "w1 1");
+        due(4, "bytes of an older text", x.tunnel(), -14);
+        x.clear();
+        write(x, "ww");
+        x.clear();
+        write(x, "w");
+        due(4, "letters of an older text", x.tunnel(), -11);
     }
 
     private static void tunnelAnew() {
@@ -192,6 +207,9 @@ public final class PromiseTests {
         x.keep(1);
         x.saw(0, 4);
         x.mark(0, 0);
+        x.best(-1);
+        x.fresh(-1);
+        x.fits(-1);
         write(x, "w1 1;w1 1;t1 2 0 1;$");
         due(4, "fault", x.tunnel(), -29);
         due(4, "gone stays", x.now(0), 1);
@@ -211,6 +229,7 @@ public final class PromiseTests {
         due(4, "image 0 is gone", x.back(0), STATE);
         due(4, "image 1 is gone", x.back(1), STATE);
         due(4, "plans are new", x.best(-1), 4);
+        due(4, "plans are new", x.best(1), NONE);
         due(4, "fits are new", x.fits(-1), 3);
         due(27, "the trace is not", x.trace(), 1);
     }
@@ -567,6 +586,7 @@ public final class PromiseTests {
         x.walks(1);
         x.walks(1);
         due(17, "through", x.meets(1, 0, 9, 0), NONE);
+        due(17, "the latest", x.meets(1, 200, 9, 0), NONE);
         int[][] bad = {{3, 0, 1, 0}, {1, -1, 1, 0}, {1, 201, 1, 0}, {1, 0, 0, 0}, {1, 0, 10, 0}, {1, 0, 1, -1}, {1, 0, 1, 2}};
         for (int[] b : bad) {
             due(17, "bad", x.meets(b[0], b[1], b[2], b[3]), BAD);
@@ -591,6 +611,9 @@ public final class PromiseTests {
         due(18, "least terms", x.odds(1, 5, 28, 0), 1);
         due(18, "least terms", x.odds(1, 5, 28, 1), 4);
         due(18, "never", x.odds(1, 0, 28, 0), 1);
+        due(18, "least m", x.odds(1, 0, 0, 1), 1);
+        due(18, "least m", x.odds(1, 0, 0, 0), 0);
+        due(18, "greatest m", x.odds(1, 3, 9999, 0), 1);
         due(18, "always", x.odds(1, 10, 37, 0), 0);
         due(18, "always", x.odds(1, 10, 38, 0), 1);
         x.walks(1);
@@ -726,6 +749,9 @@ public final class PromiseTests {
         due(25, "back to 1", x.back(1), 28);
         due(25, "through", x.now(6), 1);
         due(25, "no plan", x.best(-1), NONE);
+        x.back(0);
+        due(25, "plans are new again", x.best(-1), 10);
+        x.back(1);
         due(25, "undo", x.undo(), 2);
         due(25, "image 0 is as it was", x.back(0), 17);
         due(25, "undo", x.undo(), 1);
