@@ -515,7 +515,6 @@ public final class BoatLeggers {
             stretches = 0;
             change = 1;
             hours = 0;
-            pairs = 0;
         }
 
         void addWalker(int reaches, int strong) {

@@ -23,6 +23,7 @@ public final class EdgePlanTests {
         meets();
         odds();
         Edges.test("(From NOW on; nothing is changed.)", EdgePlanTests::nothingIsChanged);
+        Edges.test("(From NOW on;", EdgePlanTests::fromNowOn);
         Edges.end();
     }
 
@@ -52,6 +53,30 @@ public final class EdgePlanTests {
         Edges.refused("odds", EdgePlanTests::busy, x -> x.odds(1, 11, 0, 0), BAD);
     }
 
+    /** Each call that changes NOW, between two askings. */
+    private static void fromNowOn() {
+        Boat x = equal(2, 3, "t4 10 0 0;t2 10 0 0;h20;");
+        asked("at first", x, 16 + 20, NONE);
+        x.keep(0);
+        x.walks(1);
+        asked("walked", x, 20, NONE);
+        x.rests(1);
+        asked("rested", x, 8, 8);
+        x.undo();
+        asked("undone", x, 20, NONE);
+        x.backs();
+        asked("backed", x, 40 + 20, NONE);
+        x.back(0);
+        asked("back", x, 16 + 20, NONE);
+        x.walk(1, 1);
+        asked("through", x, NONE, NONE);
+    }
+
+    private static void asked(String what, Boat x, int best, int fresh) {
+        due(what + ", best", x.best(-1), best);
+        due(what + ", fresh", x.fresh(-1), fresh);
+    }
+
     // ---- BEST
 
     private static void best() {
@@ -79,6 +104,11 @@ public final class EdgePlanTests {
         due("ahead of stretch 0, there was one", again.best(-1), 8);
         Boat first = strong(4, "t1 10 0 0;t1 10 0 0;c9;");
         due("no change at first", first.best(-1), 8);
+        // 01 01: 6 + 36; 12 01: 4 + 36, though 12 is slow on the second
+        Boat later = Boat.told("w1 40;w9 40;w9 40;t1 18 0 0;t9 10 0 0;c0;");
+        due("the quickest begins with the last pair", later.best(-1), 40);
+        due("the quickest begins with the last pair", later.best(0), 12);
+        due("and goes on with the first", later.best(1), 1);
         Boat most = Boat.told("w1 1;w1 1;" + "t9 18 1 1;".repeat(6) + "c9;");
         due("two walkers, the dearest tunnel", most.best(-1), 63 + 5 * 117);
     }

@@ -30,6 +30,7 @@ public final class EdgeSeenTests {
         Edges.test("0 WALKERS, 1 STRETCHES, 2 CHANGE, 3 HOURS (0: always free), 4 SEEN, 5 how many may be UNDONE, 6 bytes of THE TEXT. "
             + "BAD.", EdgeSeenTests::counts);
         Edges.test("THE TRACE.", EdgeSeenTests::trace);
+        Edges.test("An object is used for at most 512 calls after it has been made", EdgeSeenTests::allCalls);
         Edges.end();
     }
 
@@ -100,6 +101,7 @@ public final class EdgeSeenTests {
         due("nothing", new Boat().forget(), 0);
         due("six", full().forget(), 6);
         Boat x = full();
+        due("asked ahead of it", x.fits(-1), 0);
         x.forget();
         due("nothing then", x.forget(), 0);
         due("nothing then", x.count(4), 0);
@@ -173,6 +175,26 @@ public final class EdgeSeenTests {
         due("two changes then", first.fits(-1), 6 * 25 * 36);
         first.saw(1, 9);
         due("in two minutes at once", first.fits(-1), 0);
+        slowestAndQuickest();
+    }
+
+    /** Rows at either end of what a row can take. */
+    private static void slowestAndQuickest() {
+        Boat worn = Boat.told("w5 1;w5 1;t2 10 0 0;t3 10 0 1;");
+        worn.saw(1, 8 + 30);
+        due("both worn", worn.fits(-1), 1);
+        // 20, then 9 + 14 by one of them and another, then all are worn: 9 + 10 by another pair
+        Boat changes = Boat.told("w5 1;w5 1;w5 1;t5 10 0 0;t2 10 0 0;t1 10 0 1;c9;");
+        changes.saw(2, 20 + 23 + 19);
+        due("both worn, and a change", changes.fits(-1), 12);
+        Boat quick = Boat.told("w1 40;w9 40;w9 40;t1 18 0 0;t9 10 0 1;c0;");
+        quick.saw(1, 40);
+        due("12 and then 01 or 02", quick.fits(-1), 2);
+        due("12 and then 01", quick.fits(0), 12);
+        due("12 and then 01", quick.fits(1), 1);
+        Boat longLast = strong(2, "t1 10 0 0;t1 10 0 1;t9 10 0 0;");
+        longLast.saw(1, 8);
+        due("a long one behind the shaft", longLast.fits(-1), 1);
     }
 
     private static void theFirst() {
@@ -462,10 +484,18 @@ public final class EdgeSeenTests {
         due("nothing takes it back", x.trace(), sum + 1);
         x.tunnel();
         due("nor does a new text", x.trace(), sum + 1);
-        Boat many = strong(2, "t2 10 0 1;");
-        for (int i = 0; i < 400; i++) {
-            many.mark(5, 0);
+    }
+
+    private static void allCalls() {
+        Boat marked = Boat.told("t2 10 0 1;");
+        // eleven calls are made; the last of all asks
+        for (int i = 12; i < 512; i++) {
+            marked.mark(5, 0);
         }
-        due("as often as it is asked", many.trace(), 400 * 100001L);
+        due("the 512th", marked.trace(), 500 * 100001L);
+        Boat rested = new Boat();
+        for (int i = 1; i <= 512; i++) {
+            due("call " + i, rested.rests(1), i);
+        }
     }
 }

@@ -164,8 +164,10 @@ public final class EdgeTextTests {
         }
         due("1 at first costs 1", Boat.told("w5 40;w5 40;w5 40;t1 10 0 0;t1 10 0 0;").walk(1).walks(2), 5);
         Boat anew = Boat.told("c7;");
-        anew.tunnel();
-        due("1 again, if it is not told anew", anew.count(2), 1);
+        for (int i = 1; i <= 3; i++) {
+            anew.tunnel();
+            due("1 again, if it is not told anew, " + i, anew.count(2), 1);
+        }
     }
 
     private static void hours() {
@@ -176,8 +178,10 @@ public final class EdgeTextTests {
         fault("h0;", 1);
         fault("h100;", 1);
         Boat anew = Boat.told("h50;");
-        anew.tunnel();
-        due("always free again, if it is not told anew", anew.count(3), 0);
+        for (int i = 1; i <= 3; i++) {
+            anew.tunnel();
+            due("always free again, if it is not told anew, " + i, anew.count(3), 0);
+        }
     }
 
     private static void hoursByTurns() {
@@ -279,6 +283,7 @@ public final class EdgeTextTests {
             }
             fault("w" + c + "3 4;", 0);
             fault("w 3 4" + c + ";", 5);
+            fault("h " + c + ";", 2);
         }
         int[] none = {'`', '{', '@', 'A', 'W', 'Z', '[', '/', ':', '<', '-', '+', '.', ',', 128, 247};
         for (int b : none) {
@@ -293,6 +298,7 @@ public final class EdgeTextTests {
             boolean small = n < 10;
             Boat x = Boat.told((small ? "c" : "h") + n + ";");
             due("number " + n, x.count(small ? 2 : 3), n);
+            fault(n + " 5;", 0);
         }
     }
 
@@ -462,7 +468,14 @@ public final class EdgeTextTests {
 
     private static void anew() {
         Boat x = rich().write("w3 4;w5 9;w2 30;t3 9 0 1;");
+        // asked ahead of it, so that an answer that was kept would show
+        x.best(-1);
+        x.fresh(-1);
+        x.fits(-1);
         due("items", x.tunnel(), 4);
+        due("asked anew", x.best(-1), 18);
+        due("asked anew", x.fresh(0), 1);
+        due("asked anew", x.fits(-1), 3);
         int[] nows = {0, 0, NONE, 0, 1, 3, 0};
         for (int what = 0; what < nows.length; what++) {
             due("now(" + what + ")", x.now(what), nows[what]);
@@ -479,6 +492,15 @@ public final class EdgeTextTests {
         due("anew by a text of nothing", x.tunnel(), 0);
         due("through then", x.now(6), 1);
         due("at minute 0 then", x.now(1), 0);
+        Boat fewer = Boat.told("w5 40;w5 40;w5 40;w5 40;t1 10 0 0;");
+        for (int i = 1; i <= 3; i++) {
+            fewer.write("w5 40;w5 40;t1 11 0 0;").tunnel();
+            due("one pair is left, " + i, fewer.fits(-1), 1);
+            due("one pair is left, " + i, fewer.best(-1), 6);
+            fewer.write("w5 40;t1 10 0 0;").tunnel();
+            due("no pair is left, " + i, fewer.fits(-1), 0);
+            due("no pair is left, " + i, fewer.best(-1), NONE);
+        }
     }
 
     private static void walker() {

@@ -28,11 +28,12 @@ public final class FaceTests {
         }
     }
 
-    public static void main(String[] args) throws IOException {
+    public static void main(String[] args) throws Exception {
         face();
         classesInside();
         source();
         room();
+        neverThrows();
         System.out.println(wrong == 0 ? "the face is as told" : wrong + " faults");
         if (wrong != 0) {
             System.exit(1);
@@ -127,6 +128,41 @@ public final class FaceTests {
         busy(x, text);
         long made = bean.getThreadAllocatedBytes(id) - before;
         check(made < 20000, "bytes made by 500 calls: " + made);
+    }
+
+    /** Every method with every row of odd numbers, on a new object, on a full one and on one without anybody. */
+    private static void neverThrows() throws IllegalAccessException {
+        String full = "w9 1;w9 1;w9 1;w9 1;t9 2 1 1;t9 18 1 1;t9 2 1 1;t9 18 1 1;t9 13 1 1;t9 14 1 1;c 9;h 10;";
+        String[] texts = {"", full, "w1 1;w1 1;", "t1 2 0 1;", "w1 1;w1 1;t1 2 0 1;", "$"};
+        int[] odd = {Integer.MIN_VALUE, Integer.MIN_VALUE + 9, -1000000, -12, -2, -1, 0, 1, 2, 3, 5, 6, 7, 9, 10, 12, 23, 34, 99, 101,
+            200, 255, 256, 9999, 10000, Integer.MAX_VALUE - 9, Integer.MAX_VALUE};
+        for (String text : texts) {
+            for (Method m : BoatLeggers.class.getDeclaredMethods()) {
+                if (Modifier.isPublic(m.getModifiers())) {
+                    callWithAll(m, text, odd);
+                }
+            }
+        }
+    }
+
+    private static void callWithAll(Method m, String text, int[] odd) throws IllegalAccessException {
+        BoatLeggers x = new BoatLeggers();
+        busy(x, text);
+        int many = m.getParameterCount();
+        int rows = (int) Math.pow(odd.length, many);
+        Object[] row = new Object[many];
+        // a stride that shares no divisor with the 27 numbers still goes through all kinds of rows
+        for (int r = 0; r < rows; r += many > 2 ? 7 : 1) {
+            for (int i = 0, rest = r; i < many; i++, rest /= odd.length) {
+                row[i] = odd[rest % odd.length];
+            }
+            try {
+                m.invoke(x, row);
+            } catch (java.lang.reflect.InvocationTargetException e) {
+                check(false, m + " with " + Arrays.toString(row) + " behind '" + text + "': " + e.getCause());
+                return;
+            }
+        }
     }
 
     private static void busy(BoatLeggers x, String text) {

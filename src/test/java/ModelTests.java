@@ -499,6 +499,8 @@ public final class ModelTests {
 
     private static int wrong = 0;
     private static int answers = 0;
+    /** Of this run: the document promises nothing behind the 512th. */
+    private static int calls = 0;
     private static StringBuilder run = new StringBuilder();
     private static BoatLeggers x;
     private static Model m;
@@ -533,6 +535,10 @@ public final class ModelTests {
 
     private static void same(String call, long got, long want) {
         answers++;
+        calls++;
+        if (calls > 512) {
+            throw new IllegalStateException("the test makes more calls than the document has");
+        }
         if (wrong < 40) {
             run.append(call).append(" -> ").append(got).append('\n');
         }
@@ -647,15 +653,16 @@ public final class ModelTests {
         x = new BoatLeggers();
         m = new Model();
         run = new StringBuilder("run " + seed + "\n");
+        calls = 0;
     }
 
     private static void walkingRun(long seed) {
         begin(seed);
         boolean big = seed % 40 == 0;
         readTunnel(big ? 4 : 3, big ? 6 : 4);
-        for (int i = 0; i < 300; i++) {
+        while (calls < 500) {
             someCall();
-            if (random.nextInt(150) == 0) {
+            if (calls < 300 && random.nextInt(100) == 0) {
                 readTunnel(big ? 4 : 3, big ? 6 : 4);
             }
         }
@@ -684,19 +691,19 @@ public final class ModelTests {
         for (int i = 0; i < 100; i++) {
             same("rests(99)", x.rests(99), m.rests(99));
         }
-        for (int i = 0; i < 200; i++) {
+        while (calls < 500) {
             someCall();
         }
     }
 
     public static void main(String[] args) {
-        for (long seed = 1; seed <= 600; seed++) {
+        for (long seed = 1; seed <= 800; seed++) {
             walkingRun(seed);
         }
         for (long seed = 1; seed <= 4000; seed++) {
             readingRun(seed);
         }
-        for (long seed = 1; seed <= 60; seed++) {
+        for (long seed = 1; seed <= 100; seed++) {
             lateRun(seed);
         }
         System.out.println(answers + " answers, " + wrong + " not as due");
