@@ -109,6 +109,11 @@ public final class EdgePlanTests {
         due("the quickest begins with the last pair", later.best(-1), 40);
         due("the quickest begins with the last pair", later.best(0), 12);
         due("and goes on with the first", later.best(1), 1);
+        // 01 01: 6 + 36; 02 01: 4 + 36, and nobody else is quick on the second
+        Boat alone = Boat.told("w1 40;w1 40;w9 40;t1 10 0 0;t9 2 0 0;c0;");
+        due("the first pair is the quickest on the second", alone.best(-1), 40);
+        due("the first pair is the quickest on the second", alone.best(0), 2);
+        due("the first pair is the quickest on the second", alone.best(1), 1);
         Boat most = Boat.told("w1 1;w1 1;" + "t9 18 1 1;".repeat(6) + "c9;");
         due("two walkers, the dearest tunnel", most.best(-1), 63 + 5 * 117);
     }
